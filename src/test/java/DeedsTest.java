@@ -102,6 +102,7 @@ public final class DeedsTest {
         Check.due("keep(2)", x.keep(2), 0);
         x.pad(0, 0);
         x.cut(0, 0);
+        x.error(0, 2);
         x.error(1, 2);
         Check.due("keep(0)", x.keep(0), 2);
         Check.due("kept", x.count(8), 2);
@@ -117,7 +118,7 @@ public final class DeedsTest {
         Check.due("on(0)", x.on(0), 2);
         headIs("on(0)", x, 0, 2, 4, 3, 5, 0);
         headIs("on(0)", x, 1, 0, 0, 0, 0, 1);
-        Check.told("on(0): ERROR 0", x, x.thumb(0, 1), 0);
+        Check.told("on(0): ERROR 0", x, x.thumb(0, 1), 2);
         Check.told("on(0): ERROR 1", x, x.thumb(1, 1), 2);
         Check.due("DEEDS of the kept one are undone, too", x.undo(1), 1);
         headIs("undo(1)", x, 0, 2, 4, 3, 5, 3);
@@ -125,6 +126,7 @@ public final class DeedsTest {
         headIs("on(0) again", x, 0, 2, 4, 3, 5, 0);
         Check.due("on(2)", x.on(2), 0);
         headIs("on(2)", x, 0, 1, 4, 3, 5, 3);
+        Check.told("on(2): ERROR 0", x, x.thumb(0, 1), 0);
         Check.told("on(2): ERROR 1", x, x.thumb(1, 1), 1);
         Check.due("keep(0) anew", x.keep(0), 0);
         Check.due("on(0) is the newer one", x.on(0), 0);

@@ -21,6 +21,15 @@ public final class HiredTest {
         Check.due("one too few at one", x.suits(0, 0, 2), 0);
         Check.due("by luck of a LIGHT one", x.suits(2, 0, 1), 1);
         Check.due("nothing is needed", x.suits(1, 0, 3), 2);
+        for (int place = 0; place < 4; place++) {
+            StringBuilder need = new StringBuilder("00001");
+            need.setCharAt(place, '3');
+            ThumbReader y = Check.office("h22220 t00 t10 t20 p" + need);
+            Check.due("3 for a 2 at PLACE " + place, y.suits(0, 0, 0), 0);
+            Check.due("3 for 1 .. 3 at PLACE " + place, y.suits(1, 0, 0), 1);
+            Check.due("pads at PLACE " + place, y.pads(0, 0, 0, 0), 1);
+            Check.due("all at PLACE " + place, y.all(0, 0), 3);
+        }
     }
 
     private static void luck() {

@@ -78,6 +78,8 @@ public final class LearntTest {
         ThumbReader hair = Check.office("h33333 h33330");
         Check.fill(hair, 0, 0, 1);
         Check.both("HAIR hides no BUMP here", hair, hair.tells(0), 0, 0);
+        Check.fill(hair, 0, 1, 0);
+        Check.both("HAIR is no BUMP", hair, hair.tells(0), 0, 0);
     }
 
     private static void tellsRefused() {
@@ -100,6 +102,8 @@ public final class LearntTest {
         for (int n = 1; n <= 5; n++) {
             Check.due("always alone", apart.lots(0, n, 2147483646), n);
         }
+        ThumbReader one = Check.office("h33330 t20");
+        Check.due("one HEAD is always alone", one.lots(0, 5, 1), 5);
         ThumbReader twins = Check.office("h33330 h33330 t00");
         Check.due("never alone", twins.lots(0, 5, 1), 0);
         ThumbReader x = Check.office("h00000 h11110 t10");

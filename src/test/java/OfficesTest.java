@@ -2,6 +2,7 @@
 public final class OfficesTest {
     public static void main(String[] args) {
         faults();
+        figures();
         faultRefused();
         office();
         officeAnew();
@@ -63,6 +64,25 @@ public final class OfficesTest {
         fault("h00000H", 6);
         fault("h000000", 6);
         fault("\u00e900000", 0);
+    }
+
+    /** Each figure of each sort at its bounds, and just out of them. */
+    private static void figures() {
+        figure("h", "00000", "55553", "");
+        figure("t", "00", "23", "h00000");
+        figure("p", "00001", "66669", "h00000");
+    }
+
+    private static void figure(String letter, String lowest, String highest, String ahead) {
+        fault(ahead + letter + lowest, Check.NONE);
+        fault(ahead + letter + highest, Check.NONE);
+        for (int i = 0; i < lowest.length(); i++) {
+            int place = ahead.length() + 1 + i;
+            char below = (char) (lowest.charAt(i) - 1);
+            char above = (char) (highest.charAt(i) + 1);
+            fault(ahead + letter + lowest.substring(0, i) + below + lowest.substring(i + 1), place);
+            fault(ahead + letter + lowest.substring(0, i) + above + lowest.substring(i + 1), place);
+        }
     }
 
     private static void faultRefused() {
@@ -162,6 +182,22 @@ public final class OfficesTest {
         Check.due("a CLERK", x.mark(3, 4), 10);
         x.error(3, 2);
         Check.due("a CLERK that errs: LEASTS 0 0 4 4, 0 0 0 4", x.mark(3, 4), -3);
+        ThumbReader hair = Check.office("h00003 l00 l10 c00 c21");
+        Check.due("HAIR is no BUMP: a LIGHT one", hair.mark(0, 2), 1);
+        Check.due("HAIR is no BUMP: a LIGHT one that errs", hair.mark(1, 2), 2);
+        Check.due("HAIR is no BUMP: a CLERK", hair.mark(2, 4), 5);
+        Check.due("HAIR is no BUMP: a CLERK as a WISHING one", hair.mark(2, 3), 1);
+        Check.due("a CLERK that errs by 2: all LEASTS are 0", hair.mark(3, 3), 0);
+        ThumbReader wish = Check.office("h30001 h23000 h32000 h02300 h33000 w00 w01 w02 w03");
+        Check.due("WISH 0: 4 0 0 0, not 3 3, 4 2, not 1 2 3, 4 3", wish.mark(0, 3), 3);
+        Check.due("WISH 1: not 3 1, 2 4, not 3 3, not 0 3 3, 3 4", wish.mark(1, 3), 2);
+        Check.due("WISH 2", wish.mark(2, 3), 1);
+        Check.due("WISH 3", wish.mark(3, 3), 0);
+        Check.due("HAIR 3 is not above a WISH", Check.office("h22223 w03").mark(0, 3), 1);
+        ThumbReader light = Check.office("h50000 h00000 l00");
+        Check.due("the greatest MOST is at the first PLACE of the first HEAD", light.mark(0, 2), 6);
+        ThumbReader clerk = Check.office("h11110 c20");
+        Check.due("LEASTS 1 0 0 0 against 1 1 1 1", clerk.mark(0, 4), -3);
         ThumbReader y = Check.office("h34501 h34502 d20");
         // FELT: 3 4 5 0, and 2 3 4 0; MIDDLES 2 3 3 0, 1 2 3 0.
         Check.due("a DULL one", y.mark(0, 5), 3);
@@ -196,7 +232,8 @@ public final class OfficesTest {
     private static void error() {
         ThumbReader x = Check.office("h10540 t00 v20");
         Check.due("error(0, 2)", x.error(0, 2), 0);
-        Check.due("error(0, 1)", x.error(0, 1), 2);
+        Check.due("error(0, 0)", x.error(0, 0), 2);
+        Check.due("error(0, 1)", x.error(0, 1), 0);
         Check.told("thumb(0, 1)", x, x.thumb(0, 1), 1);
         Check.told("the other's stays", x, x.thumb(1, 1), 2);
         Check.due("an ERROR is no DEED", x.count(3), 0);

@@ -50,6 +50,8 @@ public final class PlansTest {
         Check.due("by the first THUMB", x.plan(0, 1), 14);
         Check.due("by both", x.safest(1), 5);
         Check.rowIs("by both", x, 1, 0, Check.NONE);
+        ThumbReader first = Check.office("h44000 h40000 v00 t00 p30005 p04009");
+        Check.due("the first THUMB is the stricter one", first.safest(1), 5);
         ThumbReader none = Check.office("h00000 h00000 p66669");
         Check.due("without THUMBS each PLAN is one by all", none.safest(1), 9);
         Check.rowIs("without THUMBS", none, 1, 0, Check.NONE);
@@ -63,6 +65,8 @@ public final class PlansTest {
         ThumbReader z = Check.office("h55550 t00 p66669");
         z.reads(0, 0, 0);
         Check.unchanged("5 is not PADDED", z, () -> z.gain(0, 0), Check.NONE);
+        ThumbReader twice = Check.office("h33330 t00 p50009 p44008");
+        Check.unchanged("one PAD is not enough", twice, () -> twice.gain(0, 0), Check.NONE);
         ThumbReader light = Check.office("h45550 l00 p66669");
         Check.both("from 4 to 5", light, light.gain(0, 0), 9, 0);
         Check.due("it is not done", light.count(4), 19);

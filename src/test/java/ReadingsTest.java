@@ -150,6 +150,17 @@ public final class ReadingsTest {
         Check.both("nothing tells them apart", y, y.look(0), 0, 0);
         ThumbReader z = Check.office("h35330 h53330 t00");
         Check.both("the first of alike ones", z, z.look(0), 0, 1);
+        ThumbReader hair = Check.office("h33330 h33331 t00");
+        Check.both("HAIR is not looked at", hair, hair.look(0), 0, 0);
+        Check.due("HAIR tells nobody apart", hair.alike(0, 0), 0b11);
+        ThumbReader touch = Check.office("h13500 h35100 t10");
+        Check.both("0 .. 2 and 2 .. 4 have a 2 in common; 4 .. 6 and 0 .. 2 nothing", touch, touch.look(0), 2, 1);
+        ThumbReader near = Check.office("h13000 h31000 t10");
+        Check.both("0 .. 2 and 2 .. 4, either way", near, near.look(0), 0, 0);
+        Check.due("alike, either way", near.alike(0, 0), 0b11);
+        Check.due("alike, either way", near.alike(0, 1), 0b11);
+        ThumbReader first = Check.office("h10000 h20000 t00");
+        Check.due("the first PLACE tells them apart", first.alike(0, 0), 0b01);
         ThumbReader one = Check.office("h35330 t00");
         Check.both("one HEAD", one, one.look(0), 0, 0);
         Check.unchanged("look(1)", one, () -> one.look(1), Check.BAD);

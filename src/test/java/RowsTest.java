@@ -109,6 +109,8 @@ public final class RowsTest {
         Check.finding("copy(0, -1, 1, 0, 1)", x, () -> x.copy(0, -1, 1, 0, 1), Check.BEYOND);
         Check.finding("copy(0, 0, 1, -1, 1)", x, () -> x.copy(0, 0, 1, -1, 1), Check.BEYOND);
         Check.finding("copy(0, 4, 1, 0, 0)", x, () -> x.copy(0, 4, 1, 0, 0), Check.BEYOND);
+        Check.finding("copy(0, 2, 1, 0, 2)", x, () -> x.copy(0, 2, 1, 0, 2), Check.BEYOND);
+        Check.finding("copy(0, 0, 1, 1, 2)", x, () -> x.copy(0, 0, 1, 1, 2), Check.BEYOND);
         int most = Integer.MAX_VALUE;
         Check.finding("copy(0, most, 1, most, most)", x, () -> x.copy(0, most, 1, most, most), Check.BEYOND);
         Check.finding("copy(0, 1, 1, 1, most)", x, () -> x.copy(0, 1, 1, 1, most), Check.BEYOND);
