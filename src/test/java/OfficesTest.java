@@ -6,6 +6,7 @@ public final class OfficesTest {
         faultRefused();
         office();
         officeAnew();
+        smallerOffice();
         heads();
         thumbs();
         posts();
@@ -127,6 +128,37 @@ public final class OfficesTest {
         Check.due("no THUMBS", x.count(1), 0);
         Check.due("no POSTS", x.count(2), 0);
         Check.due("the second HEAD is gone", x.head(1, 0), Check.BAD);
+    }
+
+    /** Nothing of a greater OFFICE is left in a smaller one. */
+    private static void smallerOffice() {
+        ThumbReader x = Check.office("h55550h55550h55550h55550h55550 t00l20c20d20 p00009p00009p00009p00009");
+        x.office(0);
+        x.office(0);
+        Check.write(x, 1, "h44440 l00 p00001");
+        Check.due("the smaller one", x.office(1), 1);
+        Check.due("BUMPS together", x.count(4), 16);
+        Check.due("WISHING ones", x.count(5), 0);
+        Check.due("the greatest MOST", x.mark(0, 2), 5);
+        Check.fill(x, 0, 5, 5, 5, 5);
+        Check.both("whose", x, x.whose(0, 0), 1, 1);
+        Check.due("who", x.who(0, 0), 1);
+        Check.fraction("odds", x, x.odds(0, 0, 0), 1, 1);
+        Check.both("look", x, x.look(0), 0, 0);
+        Check.due("alike", x.alike(0, 0), 1);
+        Check.both("posts", x, x.posts(0, 0), 1, 1);
+        Check.due("finds", x.finds(0, 0, 0), Check.NONE);
+        Check.due("plan", x.plan(0, 0), 1);
+        Check.rowIs("plan", x, 0, 0);
+        Check.fraction("plans", x, x.plans(0), 2, 1);
+        Check.due("safest", x.safest(0), 1);
+        Check.due("lots", x.lots(0, 5, 1), 5);
+        Check.write(x, 1, "h44440 c00");
+        x.office(1);
+        Check.due("a CLERK's mark", x.mark(0, 4), 5);
+        Check.write(x, 1, "h44440 d00");
+        x.office(1);
+        Check.due("a DULL one's mark", x.mark(0, 5), 4);
     }
 
     private static void heads() {

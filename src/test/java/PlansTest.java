@@ -55,6 +55,9 @@ public final class PlansTest {
         ThumbReader none = Check.office("h00000 h00000 p66669");
         Check.due("without THUMBS each PLAN is one by all", none.safest(1), 9);
         Check.rowIs("without THUMBS", none, 1, 0, Check.NONE);
+        ThumbReader more = Check.office("h00000 h00000 p66669 p66661 p66665 p66668");
+        Check.due("without THUMBS, four POSTS", more.safest(1), 17);
+        Check.rowIs("without THUMBS, four POSTS", more, 1, 0, 3);
     }
 
     private static void gain() {
