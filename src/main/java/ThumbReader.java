@@ -10,8 +10,9 @@ public final class ThumbReader {
 
     // The sorts of items of an OFFICE, in the order in which a TEXT tells them.
     private static final int HEAD = 0, THUMB = 1, POST = 2;
+    private static final int HEADS = 5, THUMBS = 4, POSTS = 4;
     private static final int[] MOST_ITEMS = {5, 4, 4};
-    private static final int HAIR = 4, PAY = 4;
+    private static final int HAIR = 4, PAY = 4, TOGETHER = 5;
     private static final int KIND = 0, ERROR = 1, WISH = 2;
 
     // By sorts of items: how many figures one has, and the bounds of each (five to a sort).
@@ -183,7 +184,7 @@ public final class ThumbReader {
     }
 
     public int head(int h, int what) {
-        if (!now.has(HEAD, h) || what < 0 || what > 5) {
+        if (!now.has(HEAD, h) || what < 0 || what > TOGETHER) {
             return BAD;
         }
         return told.tell(now.ofHead(h, what));
@@ -516,7 +517,7 @@ public final class ThumbReader {
             return STATE;
         }
         planner.openByOne(now, t);
-        planner.seek(now);
+        planner.reckon(now);
         return layBestPlan(r);
     }
 
@@ -525,8 +526,8 @@ public final class ThumbReader {
             return BAD;
         }
         planner.openByOne(now, t);
-        planner.seek(now);
-        return told.tellFraction(planner.number, 1);
+        planner.reckon(now);
+        return told.tellFraction(planner.ways[0][0], 1);
     }
 
     public int safest(int r) {
@@ -537,7 +538,7 @@ public final class ThumbReader {
             return STATE;
         }
         planner.openByAll(now);
-        planner.seek(now);
+        planner.reckon(now);
         return layBestPlan(r);
     }
 
@@ -546,16 +547,16 @@ public final class ThumbReader {
             return BAD;
         }
         planner.openByOne(now, t);
-        planner.seek(now);
-        int without = planner.pay;
+        planner.reckon(now);
+        int without = planner.bestPay();
         int best = NONE;
         int most = 0;
         for (int place = 0; place < PLACES; place++) {
             if (now.heads[h][place] < TOP_BUMP) {
                 planner.open[h] = now.surePosts(t, h, place);
-                planner.seek(now);
-                if (planner.pay - without > most) {
-                    most = planner.pay - without;
+                planner.reckon(now);
+                if (planner.bestPay() - without > most) {
+                    most = planner.bestPay() - without;
                     best = place;
                 }
             }
@@ -773,11 +774,16 @@ public final class ThumbReader {
 
     private int layBestPlan(int r) {
         int heads = now.sizes[HEAD];
+        int taken = 0;
         rows.renew(r, heads, NONE);
         for (int h = 0; h < heads; h++) {
-            rows.cells[r][h] = planner.best[h];
+            int p = planner.bestPost(now, h, taken);
+            if (p != NONE) {
+                rows.cells[r][h] = p;
+                taken |= 1 << p;
+            }
         }
-        return planner.pay;
+        return planner.bestPay();
     }
 
     private int presentOffices() {
@@ -897,10 +903,10 @@ public final class ThumbReader {
     /** HEADS, THUMBS, POSTS as they are now, with the DEEDS that made them so. */
     private static final class Office {
         // As the TEXT told them: DEEDS are undone by doing those that stay again from here.
-        private final int[][] first = new int[5][5];
-        private final int[][] heads = new int[5][5];
-        private final int[][] thumbs = new int[4][3];
-        private final int[][] posts = new int[4][5];
+        private final int[][] first = new int[HEADS][HAIR + 1];
+        private final int[][] heads = new int[HEADS][HAIR + 1];
+        private final int[][] thumbs = new int[THUMBS][WISH + 1];
+        private final int[][] posts = new int[POSTS][PAY + 1];
         private final int[] sizes = new int[3];
         private final int[] deeds = new int[DEEDS];
         private int done;
@@ -910,7 +916,7 @@ public final class ThumbReader {
         }
 
         int ofHead(int h, int what) {
-            return what > HAIR ? together(h) : heads[h][what];
+            return what == TOGETHER ? together(h) : heads[h][what];
         }
 
         int together(int h) {
@@ -943,7 +949,7 @@ public final class ThumbReader {
 
         long mix(long h) {
             for (int i = 0; i < sizes[HEAD]; i++) {
-                for (int what = 0; what <= 5; what++) {
+                for (int what = 0; what <= TOGETHER; what++) {
                     h = 31 * h + ofHead(i, what);
                 }
             }
@@ -969,7 +975,7 @@ public final class ThumbReader {
 
         void goBack(int n) {
             for (int h = 0; h < sizes[HEAD]; h++) {
-                System.arraycopy(first[h], 0, heads[h], 0, 5);
+                System.arraycopy(first[h], 0, heads[h], 0, HAIR + 1);
             }
             for (int d = 0; d < n; d++) {
                 repeat(deeds[d]);
@@ -993,13 +999,16 @@ public final class ThumbReader {
 
         /** With so many PADS more than there are. */
         int felt(int h, int place, int more) {
-            int hidden = heads[h][HAIR] > 1 ? 1 : 0;
-            return Math.max(0, heads[h][place] + more - hidden);
+            int bump = heads[h][place] + more;
+            return heads[h][HAIR] > 1 && bump > 0 ? bump - 1 : bump;
         }
 
         static int middle(int kind, boolean wished, int felt) {
             int wanted = felt + MORE[kind] + (wished ? MORE_AT_WISH[kind] : 0);
-            return Math.min(TOP_MIDDLE[kind], Math.max(0, wanted));
+            if (wanted < 0) {
+                return 0;
+            }
+            return wanted > TOP_MIDDLE[kind] ? TOP_MIDDLE[kind] : wanted;
         }
 
         int middleBy(int t, int h, int place, int more) {
@@ -1190,7 +1199,7 @@ public final class ThumbReader {
     /** What differs between an OFFICE and one that is gone on from: DEEDS and ERRORS. */
     private static final class Kept {
         private final int[] deeds = new int[DEEDS];
-        private final int[] errors = new int[4];
+        private final int[] errors = new int[THUMBS];
         private int done = MISSING;
 
         void take(Office office) {
@@ -1282,14 +1291,15 @@ public final class ThumbReader {
         }
     }
 
-    /** Goes through all PLANS in their order. */
+    /**
+     * From the last HEAD back to the first: what the HEADS from one on PAY at most, and in how many ways they are given
+     * POSTS, by the set of POSTS that HEADS ahead of it have taken. So no PLAN needs to be gone through by itself.
+     */
     private static final class Planner {
         // The POSTS (bits) that each HEAD may be given.
-        private final int[] open = new int[5];
-        private final int[] trial = new int[5];
-        private final int[] best = new int[5];
-        private int pay;
-        private long number;
+        private final int[] open = new int[HEADS];
+        private final int[][] pays = new int[HEADS + 1][1 << POSTS];
+        private final int[][] ways = new int[HEADS + 1][1 << POSTS];
 
         void openByOne(Office office, int t) {
             for (int h = 0; h < office.sizes[HEAD]; h++) {
@@ -1306,35 +1316,51 @@ public final class ThumbReader {
             }
         }
 
-        void seek(Office office) {
-            pay = -1;
-            number = 0;
-            give(this, office, 0, 0, 0);
-        }
-
-        /** Each level gives one HEAD its POST; POSTS ahead of NONE, so that the first of alike PLANS stays. */
-        private static void give(Planner to, Office office, int h, int taken, int sum) {
-            if (h >= office.sizes[HEAD]) {
-                to.take(h, sum);
-                return;
+        void reckon(Office office) {
+            int heads = office.sizes[HEAD];
+            int sets = 1 << office.sizes[POST];
+            for (int taken = 0; taken < sets; taken++) {
+                pays[heads][taken] = 0;
+                ways[heads][taken] = 1;
             }
-            int free = to.open[h] & ~taken;
-            for (int p = 0; p < office.sizes[POST]; p++) {
-                if ((free >> p & 1) == 1) {
-                    to.trial[h] = p;
-                    give(to, office, h + 1, taken | 1 << p, sum + office.posts[p][PAY]);
+            for (int h = heads - 1; h >= 0; h--) {
+                for (int taken = 0; taken < sets; taken++) {
+                    reckonFrom(office, h, taken);
                 }
             }
-            to.trial[h] = NONE;
-            give(to, office, h + 1, taken, sum);
         }
 
-        private void take(int heads, int sum) {
-            number++;
-            if (sum > pay) {
-                pay = sum;
-                System.arraycopy(trial, 0, best, 0, heads);
+        private void reckonFrom(Office office, int h, int taken) {
+            pays[h][taken] = pays[h + 1][taken];
+            ways[h][taken] = ways[h + 1][taken];
+            for (int p = 0; p < office.sizes[POST]; p++) {
+                if (isFree(h, p, taken)) {
+                    pays[h][taken] = Math.max(pays[h][taken], payBy(office, h, p, taken));
+                    ways[h][taken] += ways[h + 1][taken | 1 << p];
+                }
             }
+        }
+
+        private boolean isFree(int h, int p, int taken) {
+            return (open[h] & ~taken & 1 << p) != 0;
+        }
+
+        private int payBy(Office office, int h, int p, int taken) {
+            return office.posts[p][PAY] + pays[h + 1][taken | 1 << p];
+        }
+
+        int bestPay() {
+            return pays[0][0];
+        }
+
+        /** The first POST by which nothing is lost, NONE behind all: so the PLAN is the first of alike ones. */
+        int bestPost(Office office, int h, int taken) {
+            for (int p = 0; p < office.sizes[POST]; p++) {
+                if (isFree(h, p, taken) && payBy(office, h, p, taken) == pays[h][taken]) {
+                    return p;
+                }
+            }
+            return NONE;
         }
     }
 }
