@@ -1,20 +1,26 @@
 /** What the tests share: answers compared with those that are due, and offices and rows made in one line. */
-final class Check {
+class Check {
     static final int BAD = ThumbReader.BAD, FULL = ThumbReader.FULL, FINDING = ThumbReader.FINDING;
     static final int STATE = ThumbReader.STATE, NONE = ThumbReader.NONE;
     static final int NOTHING = 1, BEYOND = 2, UNLIKE = 3, NOUGHT = 4, SIZE = 5;
 
     private static int wrong = 0;
     private static int asked = 0;
+    private static String test = "";
 
-    private Check() {
+    Check() {
+    }
+
+    /** What stands ahead of each wrong answer from now on. */
+    static void now(String which) {
+        test = which;
     }
 
     static void due(String what, long got, long want) {
         asked++;
         if (got != want) {
             wrong++;
-            System.out.println(what + " answered " + got + ", due is " + want);
+            System.out.println(test + what + " answered " + got + ", due is " + want);
         }
     }
 
