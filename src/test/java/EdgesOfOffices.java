@@ -98,8 +98,49 @@ final class EdgesOfOffices extends Edge {
         }
         due("no THUMB", x.thumb(0, 0), BAD);
         due("no POST", x.post(0, 0), BAD);
+        due("no HEAD but one", x.head(1, 0), BAD);
         due("ROWS stay", x.count(6), 5);
         due("TEXTS stay", x.count(7), 4);
+    }
+
+    /** As many as there may be, all used, and of the second OFFICE nothing but this. */
+    private static ThumbReader smaller(String office) {
+        ThumbReader x = office("h55550h55550h55550h55550h55550 l20l20c20d20 p00009p00009p00009p00009");
+        x.plan(0, 0);
+        x.safest(1);
+        x.office(0);
+        write(x, 1, office);
+        due("office of " + office, x.office(1), 1);
+        return x;
+    }
+
+    @Holds(in = "Promise 11", says = "An OFFICE by a TEXT (anew: no DEEDS; kept OFFICES go)")
+    static void smallerThanTheOldOne() {
+        due("no other HEAD is READ", smaller("h11110 l00").mark(0, 2), 2);
+        due("no other HEAD is FELT", smaller("h00000 v00").mark(0, 1), 4);
+        due("no other HEAD has its WISH", smaller("h00000 w00").mark(0, 3), 1);
+        due("no other HEAD is above", smaller("h00000 c00").mark(0, 4), 5);
+        due("no other HEAD is 3", smaller("h44440 d00").mark(0, 5), 4);
+        due("no other HEAD's BUMPS", smaller("h11110 l00").count(4), 4);
+        due("no other THUMB is WISHING", smaller("h11110 l00").count(5), 0);
+        due("no other THUMB finds it", smaller("h11110 t00").finds(0, 0, 0), NONE);
+        due("no other POST is had", smaller("h11110 t00 p11111").posts(0, 0), 1);
+        due("no other HEAD is alike", smaller("h55550 t00").alike(0, 0), 1);
+        due("no other HEAD to be told apart", smaller("h11110 t00").look(0), 0);
+        ThumbReader x = smaller("h11110 t00 p11111");
+        due("no other POST PAYS", x.plan(0, 0), 1);
+        rowIs("no other HEAD is given one", x, 0, 0);
+        fraction("no other PLANS", x, x.plans(0), 2, 1);
+        due("no other POST is safest", x.safest(0), 1);
+        rowIs("no other HEAD is given the safest", x, 0, 0);
+        due("no other THUMB needs a PAD", x.all(0, 0), 0);
+        due("nothing is gained by another POST", x.gain(0, 0), NONE);
+        due("it is always that HEAD", x.lots(0, 5, 1), 5);
+        fill(x, 0, 1, 1, 1, 1);
+        both("no other HEAD's READING", x, x.whose(0, 0), 1, 1);
+        fill(x, 0, 5, 5, 5, 5);
+        both("no other HEAD's READING, by no other THUMB", x, x.whose(0, 0), 0, 0);
+        due("by no other THUMB", x.who(0, 0), 0);
     }
 
     @Holds(in = "Promise 11", says = "BAD")
@@ -196,6 +237,8 @@ final class EdgesOfOffices extends Edge {
         due("the highest", office("h55550 l20").mark(0, 2), 8);
         due("at the first PLACE of the first HEAD", office("h40000 h00000 l10").mark(0, 2), 6);
         due("at the last PLACE of the last HEAD", office("h00000 h00040 l10").mark(0, 2), 6);
+        due("of five HEADS the last one's", office("h00000h00000h00000h00000h10000 l00").mark(0, 2), 2);
+        due("of five HEADS the first one's", office("h30000h00000h00000h00000h10000 l00").mark(0, 2), 4);
         due("under HAIR", office("h00052 l10").mark(0, 2), 6);
         due("of 0 under HAIR 3", office("h00003 l00").mark(0, 2), 1);
     }
@@ -214,6 +257,8 @@ final class EdgesOfOffices extends Edge {
             }
         }
         due("all of five HEADS", office("h00000h11110h22220h33330h44440 w00").mark(0, 3), 5);
+        due("HAIR is no PLACE", office("h00003 w00").mark(0, 3), 1);
+        due("HAIR is no PLACE, a CLERK", office("h00003 c00").mark(0, 3), 1);
     }
 
     @Holds(in = "Promise 15", says = "(LEAST against LEAST)")

@@ -176,6 +176,8 @@ final class EdgesOfReadings extends Edge {
         odds("the one of 81", reading(two, 1, 1, 1, 1), 1, 16, 97);
         odds("the one that alone can be", reading(two, 2, 1, 1, 1), 1, 1, 1);
         odds("the one that can't be", reading(two, 2, 1, 1, 1), 0, 0, 1);
+        odds("HAIR is no PLACE", reading("h33330 h33331 t10", 3, 3, 3, 3), 0, 1, 2);
+        odds("under HAIR it is FELT as the other", reading("h33330 h44443 t10", 3, 3, 3, 3), 1, 1, 2);
         odds("one of five twins", reading("h33330h33330h33330h33330h33330 t20", 1, 2, 3, 5), 4, 1, 5);
     }
 
@@ -297,6 +299,13 @@ final class EdgesOfReadings extends Edge {
                 due("alike(" + t + ", " + h + ")", x.alike(t, h), want[t][h]);
             }
         }
+    }
+
+    @Holds(in = "Promise 29", says = "HEADS that a THUMB may take for a HEAD")
+    static void alikeButForHair() {
+        due("HAIR is no PLACE", office("h33330 h33331 t00").alike(0, 0), 3);
+        due("under HAIR it is FELT as the other", office("h33330 h44442 h44443 t00").alike(0, 0), 7);
+        due("under HAIR it is FELT as another", office("h33330 h33332 t00").alike(0, 0), 1);
     }
 
     @Holds(in = "Promise 29", says = "itself, too")

@@ -74,6 +74,30 @@ final class EdgesOfRows extends Edge {
         rowIs("the other ROW stays", x, 1, 8, 8, 8);
     }
 
+    /** ROW 0 was full of this number, then it came anew with those places. */
+    private static ThumbReader anew(ThumbReader x, int was, int... places) {
+        fill(x, 0, many(40, was));
+        fill(x, 0, places);
+        return x;
+    }
+
+    @Holds(in = "Promise 2", says = "A ROW is there with n ints 0: n.")
+    static void nothingOfALongerRowIsLeft() {
+        for (int was : new int[] {1, 0, MAX, -1}) {
+            ThumbReader x = anew(office("h11110 h00000 t00"), was, 1, 1, 1, 1);
+            due("fits", x.fits(0, 0, 0), 1);
+            due("whose", x.whose(0, 0), 1);
+            ThumbReader y = anew(office("h11110 h00000 t00"), was, 1, 0);
+            both("tells", y, y.tells(0), 15, 1);
+            ThumbReader z = anew(office("h11110 h00000 t00"), was, 0, 0, 1);
+            both("learn", z, z.learn(0, 0), 0b001001, 15);
+            ThumbReader mean = anew(new ThumbReader(), was, 4, 6);
+            told("mean", mean, 5);
+            ThumbReader five = anew(office("h11110h00000h00000h00000h00000"), was, 1, 0, 0, 0, 0);
+            both("tells of five", five, five.tells(0), 15, 4);
+        }
+    }
+
     @Holds(in = "Promise 2", says = "BAD")
     static void rowBad() {
         rowNumber("row(r, 3)", (x, r) -> x.row(r, 3));

@@ -30,13 +30,13 @@ final class EdgesOfTerms extends Edge {
     }
 
     @Holds(in = "The public face", says = "BAD = -1, FULL = -2, FINDING = -3, STATE = -4, SPENT = -6, NONE = -9;")
-    static void constants() {
-        due("BAD", ThumbReader.BAD, -1);
-        due("FULL", ThumbReader.FULL, -2);
-        due("FINDING", ThumbReader.FINDING, -3);
-        due("STATE", ThumbReader.STATE, -4);
-        due("SPENT", ThumbReader.SPENT, -6);
-        due("NONE", ThumbReader.NONE, -9);
+    static void constants() throws ReflectiveOperationException {
+        String[] names = {"BAD", "FULL", "FINDING", "STATE", "SPENT", "NONE"};
+        int[] numbers = {-1, -2, -3, -4, -6, -9};
+        for (int i = 0; i < names.length; i++) {
+            // As it stands in the class, not as the compiler laid it into this one.
+            due(names[i], ThumbReader.class.getField(names[i]).getInt(null), numbers[i]);
+        }
     }
 
     @Holds(in = "Terms", says = "BAD -1 (a number that is none, or not as told)")

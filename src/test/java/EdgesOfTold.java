@@ -294,7 +294,7 @@ final class EdgesOfTold extends Edge {
         + "THUMB thumb() 0 to 2; of each POST post() 0 to 4; of each kept OFFICE how many DEEDS (-1: missing); of each ROW "
         + "its size (-1: missing) and places, of each TEXT likewise.")
     static void digestOfSome() {
-        ThumbReader x = office("h12343 h00000 c23 d01 p65437 p00001");
+        ThumbReader x = office("h12343 c23 d01 p65437 p00001 p12346");
         x.pad(0, 0);
         x.keep(2);
         x.cut(0, 1);
@@ -307,13 +307,27 @@ final class EdgesOfTold extends Edge {
         x.put(2, 0, 127);
         x.put(2, 2, 128);
         due("of some", x.digest(), mixed(
-            2, 2, 2, 2, 11, 1, 2, 2, 2,
-            2, 2, 3, 4, 1, 11, 0, 0, 0, 0, 0, 0,
+            1, 2, 3, 2, 11, 1, 2, 2, 2,
+            2, 2, 3, 4, 1, 11,
             4, 1, 3, 5, 0, 1,
-            6, 5, 4, 3, 7, 0, 0, 0, 0, 1,
+            6, 5, 4, 3, 7, 0, 0, 0, 0, 1, 1, 2, 3, 4, 6,
             2, -1, 1,
             2, MIN, MAX, -1, -1, -1, 1, 0, -1,
             0, -1, 3, 127, 32, -128, -1));
+    }
+
+    @Holds(in = "Promise 49", says = "of each HEAD head() 0 to 5; of each THUMB thumb() 0 to 2; of each POST post() 0 to 4")
+    static void digestOfMoreHeadsThanPosts() {
+        ThumbReader x = office("h00003 h55550 h10000 l11 w23 p00001");
+        x.text(0, 0);
+        due("three, two, one", x.digest(), mixed(
+            3, 2, 1, 0, 21, 1, 0, 1, 0,
+            0, 0, 0, 0, 3, 0, 5, 5, 5, 5, 0, 20, 1, 0, 0, 0, 0, 1,
+            2, 1, 1, 3, 2, 3,
+            0, 0, 0, 0, 1,
+            -1, -1, -1,
+            -1, -1, -1, -1, -1, -1,
+            0, -1, -1, -1));
     }
 
     @Holds(in = "Promise 49", says = "(-1: missing)")

@@ -111,28 +111,28 @@ public final class HiredTest {
     }
 
     private interface Call {
-        int by(int a, int b, int c, int d);
+        int by(ThumbReader x, int a, int b, int c, int d);
     }
 
     /** One THUMB, one HEAD, one POST: each number that is none, one at a time. */
-    private static void refused(String name, ThumbReader x, Call call, int... tops) {
+    private static void refused(String name, Call call, int... tops) {
+        ThumbReader x = Check.office("h55550 t00 p11111");
+        x.row(0, 1);
         for (int i = 0; i < tops.length; i++) {
             for (int bad : new int[] {-1, tops[i], Integer.MIN_VALUE, Integer.MAX_VALUE}) {
                 int[] a = new int[4];
                 a[i] = bad;
-                Check.unchanged(name + ", number " + i + " is " + bad, x, () -> call.by(a[0], a[1], a[2], a[3]), Check.BAD);
+                Check.unchanged(name + ", number " + i + " is " + bad, x, () -> call.by(x, a[0], a[1], a[2], a[3]), Check.BAD);
             }
         }
     }
 
     private static void refused() {
-        ThumbReader x = Check.office("h55550 t00 p11111");
-        x.row(0, 1);
-        refused("suits", x, (a, b, c, d) -> x.suits(a, b, c), 1, 1, 1);
-        refused("luck", x, (a, b, c, d) -> x.luck(a, b, c), 1, 1, 1);
-        refused("pads", x, x::pads, 1, 1, 1, 6);
-        refused("all", x, (a, b, c, d) -> x.all(a, b), 1, 1);
-        refused("finds", x, (a, b, c, d) -> x.finds(a, b, c), 1, 1, 4);
-        refused("posts", x, (a, b, c, d) -> x.posts(a, b), 1, 1);
+        refused("suits", (x, a, b, c, d) -> x.suits(a, b, c), 1, 1, 1);
+        refused("luck", (x, a, b, c, d) -> x.luck(a, b, c), 1, 1, 1);
+        refused("pads", ThumbReader::pads, 1, 1, 1, 6);
+        refused("all", (x, a, b, c, d) -> x.all(a, b), 1, 1);
+        refused("finds", (x, a, b, c, d) -> x.finds(a, b, c), 1, 1, 4);
+        refused("posts", (x, a, b, c, d) -> x.posts(a, b), 1, 1);
     }
 }

@@ -1,18 +1,14 @@
 import java.lang.reflect.Method;
 import java.util.ArrayList;
-import java.util.Arrays;
-import java.util.Comparator;
+import java.util.Collections;
 import java.util.List;
 import java.util.Random;
 
 /** Runs of calls by lots (always the same ones) on a ThumbReader and a PlainReader, whose answers are due. */
 public final class PlainRunsTest {
-    private static final int RUNS = 600;
-    private static final int CALLS = 400;
+    private static final int RUNS = 3000;
 
-    private final ThumbReader quick = new ThumbReader();
-    private final PlainReader plain = new PlainReader();
-    private final List<String> run = new ArrayList<>();
+    private final Pair pair = new Pair();
     private final Random random;
 
     private PlainRunsTest(long seed) {
@@ -20,65 +16,40 @@ public final class PlainRunsTest {
     }
 
     public static void main(String[] args) throws Exception {
-        Method[] calls = ThumbReader.class.getMethods();
-        List<Method> face = new ArrayList<>();
-        for (Method call : calls) {
-            if (call.getDeclaringClass() == ThumbReader.class) {
-                face.add(call);
-            }
-        }
-        face.sort(Comparator.comparing(Method::getName));
         for (int seed = 0; seed < RUNS; seed++) {
             PlainRunsTest test = new PlainRunsTest(seed);
-            if (!test.go(face)) {
-                System.out.println("run " + seed + ":");
-                for (String call : test.run) {
-                    System.out.println("  " + call);
-                }
+            if (!test.go()) {
+                test.pair.print("run " + seed);
                 System.exit(1);
             }
         }
         System.out.println(RUNS + " runs are as due");
     }
 
-    private boolean go(List<Method> face) throws Exception {
-        boolean good = true;
-        for (int i = 0; i < CALLS && good; i++) {
+    private boolean go() throws Exception {
+        // A run likes some calls better than others, so that it comes far with them: to 40 DEEDS, for one.
+        List<Method> liked = new ArrayList<>(Pair.face());
+        Collections.shuffle(liked, random);
+        liked = liked.subList(0, 3 + random.nextInt(12));
+        if (random.nextInt(10) > 0) {
+            writeOffice(random.nextInt(4) > 0);
+        }
+        while (pair.hasRoom()) {
             int what = random.nextInt(100);
-            if (i == 0 && random.nextInt(10) > 0 || what < 2) {
-                good = writeOffice();
-            } else if (what < 14) {
-                good = fillRow();
+            if (what < 1) {
+                writeOffice(random.nextInt(2) > 0);
+            } else if (what < 12) {
+                fillRow();
             } else {
-                Method call = face.get(random.nextInt(face.size()));
+                List<Method> from = what < 60 ? liked : Pair.face();
+                Method call = from.get(random.nextInt(from.size()));
                 boolean rare = call.getName().equals("office") || call.getName().equals("text");
                 if (!rare || random.nextInt(8) == 0) {
-                    good = same(call.getName(), numbersFor(call));
+                    pair.sameAndTold(call.getName(), numbersFor(call));
                 }
             }
         }
-        return good;
-    }
-
-    private boolean same(String name, int... numbers) throws Exception {
-        Class<?>[] types = new Class<?>[numbers.length];
-        Object[] arguments = new Object[numbers.length];
-        for (int i = 0; i < numbers.length; i++) {
-            types[i] = int.class;
-            arguments[i] = numbers[i];
-        }
-        long got = ((Number) ThumbReader.class.getMethod(name, types).invoke(quick, arguments)).longValue();
-        Method due = PlainReader.class.getMethod(name, types);
-        due.setAccessible(true);
-        long want = ((Number) due.invoke(plain, arguments)).longValue();
-        run.add(name + Arrays.toString(numbers) + " answered " + got + ", due is " + want);
-        boolean good = got == want && quick.asked() == plain.asked() && quick.upper() == plain.upper()
-            && quick.lower() == plain.lower() && quick.finding() == plain.finding()
-            && quick.digest() == plain.digest();
-        for (int f = 1; f <= 5; f++) {
-            good &= quick.findings(f) == plain.findings(f);
-        }
-        return good;
+        return pair.end();
     }
 
     private int[] numbersFor(Method call) {
@@ -92,37 +63,34 @@ public final class PlainRunsTest {
             numbers[2] = random.nextInt();
         }
         if (call.getName().equals("undo")) {
-            numbers[0] = random.nextInt(12) - 1;
+            numbers[0] = random.nextInt(42) - 1;
         }
         return numbers;
     }
 
-    private boolean fillRow() throws Exception {
+    private void fillRow() throws Exception {
         int r = random.nextInt(6);
         int kind = random.nextInt(4);
-        int size = kind == 0 ? 4 : kind == 1 ? 3 * random.nextInt(4) : kind == 2 ? plain.count(0) : random.nextInt(43) - 1;
-        boolean good = same("row", r, size);
-        if (kind == 0 && plain.count(1) > 0) {
-            // Near a HEAD by a THUMB, so that it fits some.
-            int t = random.nextInt(plain.count(1));
-            int h = random.nextInt(plain.count(0));
-            for (int place = 0; place < 4 && good; place++) {
-                good = same("reads", t, h, place);
-                int number = random.nextInt(3) == 0 ? plain.asked() : plain.reads(t, h, place);
-                good = good && same("lay", r, place, random.nextInt(40) == 0 ? 10 : number);
-            }
-            return good;
-        }
-        for (int i = 0; i < size && good; i++) {
+        int size = kind == 0 ? 4 : kind == 1 ? 3 * random.nextInt(4) : kind == 2 ? pair.plain.count(0) : random.nextInt(43) - 1;
+        pair.same("row", r, size);
+        int thumbs = pair.plain.count(1);
+        int t = thumbs == 0 ? 0 : random.nextInt(thumbs);
+        int h = thumbs == 0 ? 0 : random.nextInt(pair.plain.count(0));
+        for (int i = 0; i < size; i++) {
             int top = kind == 1 ? (i % 3 == 2 ? 10 : 4) : kind == 2 ? 2 : 9;
-            good = same("lay", r, i, random.nextInt(60) == 0 ? random.nextInt() : random.nextInt(top));
+            int number = random.nextInt(60) == 0 ? random.nextInt() : random.nextInt(top);
+            if (kind == 0 && thumbs > 0 && random.nextInt(40) > 0) {
+                // Near a HEAD by a THUMB, so that it fits some.
+                pair.same("reads", t, h, i);
+                int least = pair.plain.reads(t, h, i);
+                number = random.nextInt(3) == 0 ? pair.plain.asked() : least;
+            }
+            pair.same("lay", r, i, number);
         }
-        return good;
     }
 
-    private boolean writeOffice() throws Exception {
+    private void writeOffice(boolean nice) throws Exception {
         StringBuilder signs = new StringBuilder();
-        boolean nice = random.nextInt(4) > 0;
         int heads = nice ? 1 + random.nextInt(5) : random.nextInt(7);
         for (int h = 0; h < heads; h++) {
             item(signs, "h", 5, 5, 5, 5, 3);
@@ -146,13 +114,10 @@ public final class PlainRunsTest {
         if (!nice && random.nextInt(4) == 0) {
             signs.append("   ");
         }
-        int size = Math.min(80, signs.length());
         int t = random.nextInt(4);
-        boolean good = same("text", t, size);
-        for (int i = 0; i < size && good; i++) {
-            good = same("put", t, i, signs.charAt(i));
-        }
-        return good && same("fault", t) && same("office", t);
+        pair.write(t, signs.substring(0, Math.min(80, signs.length())));
+        pair.sameAndTold("fault", t);
+        pair.sameAndTold("office", t);
     }
 
     private void item(StringBuilder signs, String letter, int... tops) {

@@ -91,34 +91,33 @@ public final class ReadingsTest {
     }
 
     private interface Call {
-        int by(int t, int h, int r);
+        int by(ThumbReader x, int t, int h, int r);
     }
 
     private static void readingRefused() {
-        ThumbReader x = Check.office("h12340 t00");
-        readingRefused("fits", x, x::fits);
-        readingRefused("odds", x, x::odds);
-        readingRefused("whose", x, (t, h, r) -> h == 0 ? x.whose(t, r) : Check.BAD);
-        readingRefused("who", x, (t, h, r) -> t == 0 ? x.who(h, r) : Check.BAD);
+        readingRefused("fits", ThumbReader::fits);
+        readingRefused("odds", ThumbReader::odds);
+        readingRefused("whose", (x, t, h, r) -> h == 0 ? x.whose(t, r) : Check.BAD);
+        readingRefused("who", (x, t, h, r) -> t == 0 ? x.who(h, r) : Check.BAD);
     }
 
-    private static void readingRefused(String name, ThumbReader x, Call call) {
-        x.tear(0);
-        Check.finding(name + " without the ROW", x, () -> call.by(0, 0, 0), Check.NOTHING);
+    private static void readingRefused(String name, Call call) {
+        ThumbReader x = Check.office("h12340 t00");
+        Check.finding(name + " without the ROW", x, () -> call.by(x, 0, 0, 0), Check.NOTHING);
         int[][] bad = {{1, 0, 0}, {-1, 0, 0}, {0, 1, 0}, {0, -1, 0}, {0, 0, 6}, {0, 0, -1}};
         for (int[] b : bad) {
-            Check.unchanged(name + " by " + b[0] + ", " + b[1] + ", " + b[2], x, () -> call.by(b[0], b[1], b[2]), Check.BAD);
+            Check.unchanged(name + " by " + b[0] + ", " + b[1] + ", " + b[2], x, () -> call.by(x, b[0], b[1], b[2]), Check.BAD);
         }
         Check.fill(x, 0, 1, 2, 10);
-        Check.finding(name + " of three: SIZE first", x, () -> call.by(0, 0, 0), Check.SIZE);
+        Check.finding(name + " of three: SIZE first", x, () -> call.by(x, 0, 0, 0), Check.SIZE);
         Check.fill(x, 0, 1, 2, 3, 4, 5);
-        Check.finding(name + " of five", x, () -> call.by(0, 0, 0), Check.SIZE);
+        Check.finding(name + " of five", x, () -> call.by(x, 0, 0, 0), Check.SIZE);
         Check.fill(x, 0, 1, 2, 3, 10);
-        Check.finding(name + " of a 10", x, () -> call.by(0, 0, 0), Check.UNLIKE);
+        Check.finding(name + " of a 10", x, () -> call.by(x, 0, 0, 0), Check.UNLIKE);
         Check.fill(x, 0, -1, 2, 3, 4);
-        Check.finding(name + " of a -1", x, () -> call.by(0, 0, 0), Check.UNLIKE);
+        Check.finding(name + " of a -1", x, () -> call.by(x, 0, 0, 0), Check.UNLIKE);
         x.row(0, 0);
-        Check.finding(name + " of none", x, () -> call.by(0, 0, 0), Check.SIZE);
+        Check.finding(name + " of none", x, () -> call.by(x, 0, 0, 0), Check.SIZE);
     }
 
     private static void odds() {
