@@ -15,6 +15,7 @@ import java.util.regex.Pattern;
 /** The face of the document, and of ../shared/LANGUAGE.md what can be seen in the classes and the source. */
 public final class LanguageTest {
     private static final String SOURCE = "src/main/java/ThumbReader.java";
+    private static final String DOCUMENT = "../shared/DOC.md";
 
     private static final String FACE = """
         row(int,int)int lay(int,int,int)int at(int,int)int tear(int)int copy(int,int,int,int,int)int mean(int)int
@@ -34,6 +35,7 @@ public final class LanguageTest {
     private static int wrong = 0;
 
     public static void main(String[] args) throws Exception {
+        document(Files.readString(Path.of(DOCUMENT)));
         face();
         nested();
         String code = bare(Files.readString(Path.of(SOURCE)));
@@ -50,6 +52,27 @@ public final class LanguageTest {
             wrong++;
             System.out.println(what);
         }
+    }
+
+    /** "The public face" as it stands there: its methods are those of FACE, its constants have these values. */
+    private static void document(String page) throws ReflectiveOperationException {
+        int start = page.indexOf("public final class ThumbReader {");
+        String told = page.substring(start, page.indexOf("```", start));
+        Set<String> methods = new HashSet<>();
+        Matcher method = Pattern.compile("public (\\w+) (\\w+)\\((.*?)\\);").matcher(told);
+        while (method.find()) {
+            String types = method.group(3).replaceAll(" \\w+(, |$)", "$1").replace(", ", ",");
+            methods.add(method.group(2) + "(" + types + ")" + method.group(1));
+        }
+        due("the document's face is " + methods, methods.equals(new HashSet<>(Arrays.asList(FACE.split("\\s+")))));
+        int constants = 0;
+        Matcher constant = Pattern.compile("([A-Z]+) = (-\\d+)[,;]").matcher(told);
+        while (constant.find()) {
+            constants++;
+            int value = ThumbReader.class.getField(constant.group(1)).getInt(null);
+            due(constant.group(), value == Integer.parseInt(constant.group(2)));
+        }
+        due("six constants are told", constants == 6);
     }
 
     private static void face() {
